@@ -18,7 +18,7 @@ final class FaceTest {
         TreeSet<String> got = classFace();
         Check.due("the face has 39 methods and a constructor", due::size, 40);
         Check.due("the face", () -> got, due);
-        namesInside(due);
+        namesInside();
         source(Files.readString(SOURCE));
         Check.end();
     }
@@ -68,12 +68,16 @@ final class FaceTest {
         return "(" + String.join(", ", parts) + ")" + end;
     }
 
-    private static void namesInside(TreeSet<String> face) {
+    private static void namesInside() {
         TreeSet<String> names = new TreeSet<>();
         for (Method one : Henselhall.class.getDeclaredMethods()) {
             if (Modifier.isPublic(one.getModifiers())) {
                 names.add(one.getName());
             }
+        }
+        for (Method one : Henselhall.class.getDeclaredMethods()) {
+            boolean hidden = Modifier.isPrivate(one.getModifiers());
+            Check.due("a name of the face: " + one.getName(), () -> hidden && names.contains(one.getName()), false);
         }
         Check.due("final", () -> Modifier.isFinal(Henselhall.class.getModifiers()), true);
         for (Class<?> inside : Henselhall.class.getDeclaredClasses()) {
