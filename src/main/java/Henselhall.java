@@ -1218,6 +1218,14 @@ public final class Henselhall {
             }
         }
 
+        private static int lastOf(int set) {
+            int last = 0;
+            for (int k = 0; k < MOST; k++) {
+                last = (set >> k & 1) == 1 ? k : last;
+            }
+            return last;
+        }
+
         private long expanded(int rows, int columns) {
             if (Integer.bitCount(rows) != Integer.bitCount(columns)) {
                 return 0;
@@ -1225,7 +1233,7 @@ public final class Henselhall {
             if (rows == 0) {
                 return 1;
             }
-            int lastRow = 31 - Integer.numberOfLeadingZeros(rows);
+            int lastRow = lastOf(rows);
             int rowsAhead = rows & ~(1 << lastRow);
             long sum = 0;
             for (int column = 0; column < size; column++) {
