@@ -310,8 +310,9 @@ public final class Henselhall {
     public int at(int number)
             throws IndexOutOfBoundsException, UnsupportedOperationException, IllegalStateException {
         needNumber(number);
-        if (!rack.numbered(number).hasWholeDigits()) {
-            throw new UnsupportedOperationException("it is not whole, or its digit of the exponent 0 is not known");
+        Num source = rack.numbered(number);
+        if (source.low < 0 || rack.rowValueReach(source, rack.row.count) <= 0) {
+            throw new UnsupportedOperationException("it is not whole, or no digit of the value would be known");
         }
         needRoom();
         return rack.addRowValue(number);
@@ -822,13 +823,15 @@ public final class Henselhall {
             settle(made, 0, made.asked, root);
         }
 
+        /** The exponent up to which the value of so long a row at the number is known. */
+        int rowValueReach(Num source, int extent) {
+            return Math.min(source.high, near.last) - row.greatestLoss(extent, near.prime);
+        }
+
+        /** The span is above 0: it was when the number was made, and no number ever knows less than it did. */
         private void findRowValue(Num made, Num source) {
             int known = Math.min(source.high, near.last);
-            int span = known - row.greatestLoss(made.extent, near.prime);
-            if (span <= 0) {
-                settleNothing(made, span);
-                return;
-            }
+            int span = rowValueReach(source, made.extent);
             long point = wholeFrom(source, 0, known);
             settle(made, 0, span, rowSum(point, near.power(known), near.power(span), made.extent));
         }

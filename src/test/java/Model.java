@@ -316,7 +316,11 @@ final class Model {
 
     int at(int i) {
         N a = num(i);
-        return one("at", a, a.v >= 0 && a.n > 0);
+        BigInteger factorial = ONE;
+        for (int k = 2; k < row.size(); k++) {
+            factorial = factorial.multiply(BigInteger.valueOf(k));
+        }
+        return one("at", a, a.v >= 0 && Math.min(a.n, reach()) > val(factorial, p));
     }
 
     int one(String kind, N a, boolean fits) {

@@ -143,7 +143,13 @@ final class ModelTest {
             default:
                 int more = far ? wild() : upTo(15) == 0 ? from(-1, 22) : from(1, 6);
                 int n = upTo(2) == 0 ? lifted(m) : i;
+                int[] before = m.numbers.stream().mapToInt(k -> k.n).toArray();
                 same(run, "refine(" + n + ", " + more + ")", () -> x.refine(n, more), () -> m.refine(n, more));
+                for (int k = 0; k < before.length; k++) {
+                    int number = k;
+                    Check.due("run " + run + ": " + k + " knows no less than before",
+                        () -> x.precision(number) >= before[number], true);
+                }
                 break;
         }
     }

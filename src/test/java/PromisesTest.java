@@ -38,6 +38,8 @@ final class PromisesTest {
         shape();
         row();
         at();
+        atNearTwo();
+        atOfNothing();
         figures();
         isSound();
         full();
@@ -811,27 +813,58 @@ final class PromisesTest {
         Check.due("37: 5! takes a digit", () -> x.precision(4), 3);
         Check.due("37: 5! takes a digit", () -> x.agree(4, 3), true);
         x.give(3, 1, 1);
-        Check.due("37: all digits are taken", () -> x.at(5), 6);
-        known("37: all digits are taken", x, 6, 0, 0);
+        Check.due("37: all digits are taken", () -> x.at(5), NOT_DONE);
+        x.give(3, 1, 2);
+        Check.due("37: one digit is left", () -> x.at(6), 7);
+        known("37: one digit is left", x, 7, 0, 1, 4);
         x.give(1, 5, 4);
-        Check.due("37: valuation", () -> x.at(7), NOT_DONE);
+        Check.due("37: valuation", () -> x.at(8), NOT_DONE);
         x.give(1, 1, 0);
-        Check.due("37: precision", () -> x.at(8), NOT_DONE);
-        Check.due("37: no number", () -> x.at(9), INDEX);
+        Check.due("37: precision", () -> x.at(9), NOT_DONE);
+        Check.due("37: no number", () -> x.at(10), INDEX);
         Check.due("37: no number", () -> x.at(-1), INDEX);
         x.give(0, 1, 20);
-        Check.due("37: the reach if that is less", () -> x.at(9), 10);
-        known("37: the reach if that is less", x, 10, 11, 11);
-        Henselhall y = near(2);
+        Check.due("37: the reach if that is less", () -> x.at(10), 11);
+        known("37: the reach if that is less", x, 11, 11, 11);
+    }
+
+    private static void atNearTwo() {
+        Henselhall x = near(2);
+        x.give(7, 1, 9);
+        x.give(1, 1, 8);
+        x.give(0, 1, 1);
+        Check.due("37: a row without values", () -> x.at(2), 3);
+        known("37: a row without values", x, 3, 1, 1);
         for (int k = 0; k < 12; k++) {
-            y.value(k % 3);
+            x.value(k % 3);
         }
-        y.give(7, 1, 9);
-        Check.due("37 near 2", () -> y.at(0), 1);
-        known("37 near 2: f(7)", y, 1, 0, 1, 1);
-        y.give(1, 1, 2);
-        Check.due("37 near 2: below 0", () -> y.at(2), 3);
-        known("37 near 2: below 0", y, 3, -6, -6);
+        Check.due("37 near 2: one digit is left", () -> x.at(0), 4);
+        known("37 near 2: f(7)", x, 4, 0, 1, 1);
+        Check.due("37 near 2: no digit is left", () -> x.at(1), NOT_DONE);
+        Check.due("37 near 2: below 0", () -> x.at(2), NOT_DONE);
+        Check.due("37 near 2: nothing is changed", () -> x.valuation(5), INDEX);
+        x.refine(1, 1);
+        Check.due("37 near 2: now one digit is left", () -> x.at(1), 5);
+        known("37 near 2: f(1)", x, 5, 0, 1, 1);
+        x.refine(1, 20);
+        Check.due("37 near 2: more digits", () -> x.precision(5), 21);
+        Check.due("37 near 2: more digits", x::isSound, true);
+    }
+
+    /** All differences are 0, but a 4! of the row takes three digits all the same. */
+    private static void atOfNothing() {
+        Henselhall x = near(2);
+        for (int k = 0; k < 5; k++) {
+            x.value(0);
+        }
+        for (int known = 1; known < 4; known++) {
+            int number = known - 1;
+            x.give(0, 1, known);
+            Check.due("37: nothing up to " + known, () -> x.at(number), NOT_DONE);
+        }
+        x.give(0, 1, 4);
+        Check.due("37: nothing up to 4", () -> x.at(3), 4);
+        known("37: nothing up to 4", x, 4, 1, 1);
     }
 
     private static void figures() {
@@ -886,6 +919,10 @@ final class PromisesTest {
         Check.due("26: 40", () -> x.lift(0, 2, 3), STATE);
         Check.due("26: the first one of both", () -> x.lift(0, 1, 3), NOT_DONE);
         Check.due("37: 40", () -> x.at(0), STATE);
+        for (int k = 0; k < 12; k++) {
+            x.value(k);
+        }
+        Check.due("37: the first one of both", () -> x.at(0), NOT_DONE);
         Check.due("15: the last one", () -> x.like(39), 0);
         Check.due("14: the last one", () -> x.refine(39, 1), 3);
         Check.due("38: full", x::nothingShare, 0.0f);
