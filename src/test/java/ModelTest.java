@@ -8,7 +8,10 @@ final class ModelTest {
     /** Of 100 calls, those before these are of numbers, looks at them, polynomials; the others are behind. */
     private static final int[][] PARTS = {{10, 25, 80}, {55, 80, 90}, {30, 65, 85}, {20, 35, 45}, {60, 90, 93}};
     private static final Map<String, Integer> SEEN = new HashMap<>();
+    /** Behind the 512th call of an object its answers are free; one step takes at most 41, and the end of a run 41. */
+    private static final int MOST_CALLS = 512 - 2 * 41;
     private static long state;
+    private static int calls;
 
     private static int upTo(int most) {
         state = state * 6364136223846793005L + 1442695040888963407L;
@@ -51,6 +54,7 @@ final class ModelTest {
 
     private static void same(int run, String what, Check.Call got, Check.Call want) {
         String due = Check.told(want);
+        calls++;
         Check.due("run " + run + ": " + what, got, due);
         String name = what.substring(0, what.indexOf('('));
         String kind = due.endsWith("Exception") ? name + " " + due : name;
@@ -58,7 +62,7 @@ final class ModelTest {
     }
 
     public static void main(String[] args) {
-        for (int run = 0; run < 600; run++) {
+        for (int run = 0; run < 1200; run++) {
             state = 77777L * run + 5;
             run(run);
         }
@@ -78,15 +82,13 @@ final class ModelTest {
     private static void run(int run) {
         Henselhall x = new Henselhall();
         Model m = new Model();
-        int calls = 0;
+        calls = 0;
         if (run > 2) {
             int q = PRIMES[run % 2 == 0 ? upTo(4) : upTo(PRIMES.length - 1)];
             same(run, "setPrime(" + q + ")", () -> x.setPrime(q), () -> m.setPrime(q));
-            calls++;
         }
         int[] parts = PARTS[run % PARTS.length];
-        while (calls < 440) {
-            calls++;
+        while (calls < MOST_CALLS) {
             int kind = upTo(99);
             boolean far = upTo(60) == 0;
             if (kind < parts[0]) {
@@ -104,6 +106,8 @@ final class ModelTest {
             same(run, "valuation(" + k + ")", () -> x.valuation(i), () -> m.num(i).v);
         }
         same(run, "isSound()", () -> x.isSound(), () -> true);
+        int used = calls;
+        Check.due("run " + run + ": calls", () -> used <= 512, true);
     }
 
     private static void numbers(int run, Henselhall x, Model m, boolean far) {
@@ -147,6 +151,7 @@ final class ModelTest {
                 same(run, "refine(" + n + ", " + more + ")", () -> x.refine(n, more), () -> m.refine(n, more));
                 for (int k = 0; k < before.length; k++) {
                     int number = k;
+                    calls++;
                     Check.due("run " + run + ": " + k + " knows no less than before",
                         () -> x.precision(number) >= before[number], true);
                 }

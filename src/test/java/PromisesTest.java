@@ -661,10 +661,10 @@ final class PromisesTest {
 
     /** The symbol by what it means: a solution modulo a power that is great enough, not all divisible. */
     private static void symbolsOfConics() {
-        Henselhall x = new Henselhall();
         int[][] places = {{2, 32}, {3, 27}, {5, 25}, {7, 49}};
         for (int[] place : places) {
             int p = place[0];
+            Henselhall x = new Henselhall();
             for (int a = -7; a <= 7; a++) {
                 for (int b = -7; b <= 7; b++) {
                     if (a % (p * p) != 0 && b % (p * p) != 0) {
@@ -706,7 +706,7 @@ final class PromisesTest {
         int odd = 0;
         for (int place = 3; place <= 10000; place += 2) {
             int at = place;
-            odd += Check.told(() -> x.symbol(9973, 9967, at)).equals("-1") ? 1 : 0;
+            odd += Check.told(() -> new Henselhall().symbol(9973, 9967, at)).equals("-1") ? 1 : 0;
         }
         int minus = odd + (x.symbol(9973, 9967, 2) < 0 ? 1 : 0);
         Check.due("29: an even number of places", () -> minus % 2, 0);
